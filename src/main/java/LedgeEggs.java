@@ -35,11 +35,11 @@ public final class LedgeEggs {
     private final Law lines = new Law();
     private final Law draft = new Law();
     private final Law keptLines = new Law();
-    private final IsleText isleText = new IsleText(tape);
-    private final LawText lawText = new LawText(tape, draft);
     private final Cliff now = new Cliff();
     private final Cliff aside = new Cliff();
     private final Cliff kept = new Cliff();
+    private final IsleText isleText = new IsleText(tape, aside);
+    private final LawText lawText = new LawText(tape, draft);
     private final Rules rules = new Rules(lines);
     private final Plan plan = new Plan(rules, aside);
     private final Past past = new Past();
@@ -73,7 +73,7 @@ public final class LedgeEggs {
 
     public int isle() throws IllegalArgumentException, UnsupportedOperationException {
         aside.copy(now);
-        boolean right = isleText.read(aside);
+        boolean right = isleText.readLines(ISLE_LINES);
         tape.cut(0);
         if (!right) {
             throw new IllegalArgumentException("the text is wrong");
@@ -88,7 +88,8 @@ public final class LedgeEggs {
     }
 
     public int law() throws IllegalArgumentException {
-        boolean right = lawText.read();
+        draft.begin();
+        boolean right = lawText.readLines(LAW_LINES);
         tape.cut(0);
         if (!right) {
             throw new IllegalArgumentException("the text is wrong");
@@ -697,9 +698,10 @@ public final class LedgeEggs {
     /** The crews of all lesser sets stand in the row already, so a set asks for one crew more than what is left. */
     private int mostCrews(int set, int load) {
         int most = 0;
-        for (int crew = set; crew > 0; crew = crew - 1 & set) {
-            int left = set ^ crew;
-            if (left < crews.length && crews[left] >= most && rules.strengthOf(now, crew) >= load) {
+        for (int crew = 1; crew <= set; crew++) {
+            int left = set & ~crew;
+            boolean within = (crew & ~set) == 0 && left < crews.length;
+            if (within && crews[left] >= most && rules.strengthOf(now, crew) >= load) {
                 most = crews[left] + 1;
             }
         }
@@ -837,21 +839,23 @@ public final class LedgeEggs {
         }
     }
 
-    /** Reads THE ISLE into a cliff that the caller drops if the text is wrong. */
-    private static final class IsleText {
-        private final Tape tape;
+    /** What both texts have in common: LINES with a sign between them. */
+    private abstract static class LinesText {
+        final Tape tape;
 
-        IsleText(Tape tape) {
+        LinesText(Tape tape) {
             this.tape = tape;
         }
 
-        boolean read(Cliff cliff) {
+        abstract boolean readLine();
+
+        boolean readLines(int most) {
             tape.begin();
             if (tape.isAtEnd()) {
                 return true;
             }
-            for (int line = 0; line < ISLE_LINES; line++) {
-                if (!readLine(cliff)) {
+            for (int line = 0; line < most; line++) {
+                if (!readLine()) {
                     return false;
                 }
                 if (tape.isAtEnd()) {
@@ -863,31 +867,41 @@ public final class LedgeEggs {
             }
             return tape.refuse();
         }
+    }
+
+    /** Reads THE ISLE into a cliff that the caller drops if the text is wrong. */
+    private static final class IsleText extends LinesText {
+        private final Cliff cliff;
+
+        IsleText(Tape tape, Cliff cliff) {
+            super(tape);
+            this.cliff = cliff;
+        }
 
         /** A thing too many is not taken, so that its first word is refused like a word that is none. */
-        private boolean readLine(Cliff cliff) {
+        boolean readLine() {
             if (cliff.at(Cliff.LEDGES) < MOST_LEDGES && tape.takesWord("ledge")) {
-                return readLedge(cliff);
+                return readLedge();
             }
             if (tape.takesWord("rope")) {
-                return readRope(cliff);
+                return readRope();
             }
             if (cliff.at(Cliff.HOLDERS) < MOST_HOLDERS && tape.takesWord("holder")) {
-                return readHolder(cliff);
+                return readHolder();
             }
             if (cliff.at(Cliff.CLIMBERS) < MOST_CLIMBERS && tape.takesWord("climber")) {
-                return readClimber(cliff);
+                return readClimber();
             }
             if (tape.takesWord("gale")) {
-                return readChance(cliff, Cliff.GALE);
+                return readChance(Cliff.GALE);
             }
             if (tape.takesWord("stones")) {
-                return readChance(cliff, Cliff.STONES);
+                return readChance(Cliff.STONES);
             }
             return tape.refuse();
         }
 
-        private boolean readLedge(Cliff cliff) {
+        private boolean readLedge() {
             int fathom = tape.takeNumber(1, MOST_FATHOM);
             int roof = numberBehind("roof", 30);
             int eggs = numberBehind("eggs", MOST_EGGS);
@@ -914,7 +928,7 @@ public final class LedgeEggs {
             return tape.takeNumber(0, most);
         }
 
-        private boolean readRope(Cliff cliff) {
+        private boolean readRope() {
             int length = tape.takeNumber(1, MOST_FATHOM);
             if (!tape.takesWord("bears")) {
                 return tape.refuse();
@@ -929,7 +943,7 @@ public final class LedgeEggs {
             return true;
         }
 
-        private boolean readHolder(Cliff cliff) {
+        private boolean readHolder() {
             int strength = tape.takeNumber(1, 9);
             if (strength == NONE) {
                 return false;
@@ -941,7 +955,7 @@ public final class LedgeEggs {
             return true;
         }
 
-        private boolean readClimber(Cliff cliff) {
+        private boolean readClimber() {
             int weight = tape.takeNumber(1, 20);
             if (weight == NONE) {
                 return false;
@@ -953,7 +967,7 @@ public final class LedgeEggs {
             return true;
         }
 
-        private boolean readChance(Cliff cliff, int cell) {
+        private boolean readChance(int cell) {
             int chance = tape.takeNumber(0, 100);
             if (chance == NONE) {
                 return false;
@@ -964,38 +978,17 @@ public final class LedgeEggs {
     }
 
     /** Reads THE LAW into a draft that the caller drops if the text is wrong. */
-    private static final class LawText {
+    private static final class LawText extends LinesText {
         private static final int MOST_DEEP = 6;
 
-        private final Tape tape;
         private final Law law;
 
         LawText(Tape tape, Law law) {
-            this.tape = tape;
+            super(tape);
             this.law = law;
         }
 
-        boolean read() {
-            law.begin();
-            tape.begin();
-            if (tape.isAtEnd()) {
-                return true;
-            }
-            for (int line = 0; line < LAW_LINES; line++) {
-                if (!readLine()) {
-                    return false;
-                }
-                if (tape.isAtEnd()) {
-                    return true;
-                }
-                if (!tape.takesSign(';')) {
-                    return tape.refuse();
-                }
-            }
-            return tape.refuse();
-        }
-
-        private boolean readLine() {
+        boolean readLine() {
             int kind = takeKind();
             if (kind == NONE) {
                 return tape.refuse();

@@ -595,6 +595,12 @@ public final class PromisesTest {
         c.due("span 2 fewest: SEED 6 and 5", x.span(2, false), 2);
         c.due("span 2 most", x.span(2, true), 3);
         c.due("span 3: the second ledge's eggs are of age 2 at most", x.span(3, false) > 0, true);
+        // winds of the third and fourth day: SEED 1 alone has 1, 0; SEED 2 alone has 9 on the second
+        Check.law(x, "lay 3 if day > 1 and wind < 2");
+        c.due("span 3 most: SEED 1 alone", x.span(3, true), 3);
+        c.due("span 3 fewest", x.span(3, false), 0);
+        Check.law(x, "lay 3 if day > 0 and wind > 8");
+        c.due("span 2 most: SEED 2 alone", x.span(2, true), 3);
         c.dueThrow("trial(-1)", () -> x.trial(-1, true), ARGUMENT);
         c.dueThrow("trial(41)", () -> x.trial(41, true), ARGUMENT);
         c.dueThrow("span(-1)", () -> x.span(-1, true), ARGUMENT);

@@ -128,6 +128,16 @@ public final class TextsTest {
         c.isleFault("gales 1", 0);
         c.isleFault("gal 1", 0);
         c.isleFault("Gale 1", 0);
+        c.isleFault("galez 1", 0);
+        c.isleFault("galea 1", 0);
+        c.isleFault("ledge 1 roof 31 eggs 0 age 0 birds 0", 13);
+        c.isleFault("ledge 1 roof 30 eggs 21 age 0 birds 0", 21);
+        c.isleFault("ledge 1 roof 30 eggs 20 age 100 birds 0", 28);
+        c.isleFault("ledge 1 roof 30 eggs 20 age 99 birds 10", 37);
+        c.isleFault("holder 10", 7);
+        c.isleFault("holder 0", 7);
+        c.isleFault("climber 21", 8);
+        c.isleFault("rope 40 bears 1000", 14);
         c.isleFault("gale\t1", 4);
         c.isleFault("gale 1\n", 6);
         c.isleFault("1 gale", 0);
@@ -154,6 +164,9 @@ public final class TextsTest {
         c.isleFault(String.join(";", java.util.Collections.nCopies(10, ledge)), -1);
         c.isleFault(String.join(";", java.util.Collections.nCopies(11, ledge)), 270);
         c.isleFault(String.join(";", java.util.Collections.nCopies(6, "holder 1")), -1);
+        c.isleFault(String.join(";", java.util.Collections.nCopies(7, "holder 1")), 54);
+        c.isleFault(String.join(";", java.util.Collections.nCopies(5, "climber 1")), 40);
+        c.isleFault(String.join(";", java.util.Collections.nCopies(15, "gale 1")), 98);
         c.isleFault(String.join(";", java.util.Collections.nCopies(4, "climber 1")), -1);
         c.isleFault(String.join(";", java.util.Collections.nCopies(14, "gale 1")), -1);
         c.isleFault(String.join(";", java.util.Collections.nCopies(14, "gale 1")) + " ;  ", 101);
@@ -216,12 +229,21 @@ public final class TextsTest {
             Check.law(x, "lay 5 if " + text);
             c.due("does not hold: " + text, x.ledge(0, 5), 0);
         }
+        String deep = "1>2 or 1<2 and ";
+        String six = (deep + "(").repeat(6) + deep;
+        Check.law(x, "lay 5 if " + six + "1<1+1" + ")".repeat(6));
+        c.due("six deep, all sides open", x.ledge(0, 5), 5);
+        Check.law(x, "lay 5 if " + six + "1>1+1" + ")".repeat(6));
+        c.due("six deep, and it fails", x.ledge(0, 5), 0);
         Check.law(x, "lay 5 if 1 < 2 and 2 < 3 or not fresh;lay 5");
         c.due("birds at most", x.ledge(0, 5), 7);
     }
 
     private static void lawFaults() {
         c.lawFault("lay 20", -1);
+        c.lawFault("lay 21", 4);
+        c.lawFault(String.join(";", java.util.Collections.nCopies(12, "wear 5")), -1);
+        c.lawFault(String.join(";", java.util.Collections.nCopies(13, "wear 5")), 84);
         c.lawFault("lay 0", -1);
         c.lawFault("lay 020 if 999 < 1", -1);
         c.lawFault("lay 0020", 4);
