@@ -15,6 +15,7 @@ final class BoundsOfTexts extends Bound {
         lawNumbers();
         lawLines();
         lawParts();
+        lawAsLongAsTheTape();
         words();
         blanks();
         emptyTexts();
@@ -341,6 +342,21 @@ final class BoundsOfTexts extends Bound {
         due("one below is above", laid(x, "fathom > 39 and roof > 29 and eggs > 19 and age > 98 and birds > 8"), 1);
         due("999 is the most", laid(x, "999 < 999 + 1 and 998 < 999"), 1);
         due("a sum of 91 parts", laid(x, "999+".repeat(90) + "999 > 0"), 1);
+    }
+
+    private static void lawAsLongAsTheTape() {
+        doc.terms("C: ALL { or ALL }; ALL: ATOM { and ATOM }; ATOM: not ATOM | ( C ) | fresh | SUM < SUM | SUM > SUM. SUM: PART { + PART };");
+        LedgeEggs x = isle(at(1, 0, 0, 0, 1));
+        due("the last of many is enough", laid(x, "1>2or ".repeat(64) + "1<2"), 1);
+        due("none of many", laid(x, "1>2or ".repeat(64) + "2<1"), 0);
+        due("all of many", laid(x, "1<2and ".repeat(55) + "1<2"), 1);
+        due("the last of many is missing", laid(x, "1<2and ".repeat(55) + "2<1"), 0);
+        due("and binds ahead of or", laid(x, "1<2 or 1>2 and 1>2"), 1);
+        due("on its other side, too", laid(x, "1>2 and 1>2 or 1<2"), 1);
+        due("but for (", laid(x, "(1<2 or 1<2) and 1>2"), 0);
+        due("a sum of as many as there is room for", laid(x, "0+".repeat(190) + "1 < 2"), 1);
+        due("each of them counts", laid(x, "1+".repeat(190) + "1 > 190"), 1);
+        due("just so many", laid(x, "1+".repeat(190) + "1 < 191"), 0);
     }
 
     private static void words() {
